@@ -342,7 +342,7 @@ public final class PipeVoice {
         if (first == NONE) {
             return NONE;
         }
-        return k == NONE ? shapes.costs[first] : shapes.widthIn(shapes.shapeOfRow(first, k), piece);
+        return k == NONE ? shapes.sumOfRow(first) : shapes.widthIn(shapes.shapeOfRow(first, k), piece);
     }
 
     public int image() {
@@ -1134,7 +1134,7 @@ public final class PipeVoice {
         private byte[] boxes = new byte[0];
         private int boxed;
         // Of a row: SOUND by SOUND the least sum from each shape on to the row's end.
-        int[] costs = new int[0];
+        private int[] costs = new int[0];
 
         Shapes(int pieceCount) {
             pieces = pieceCount;
@@ -1318,6 +1318,10 @@ public final class PipeVoice {
                 }
             }
             return best;
+        }
+
+        int sumOfRow(int first) {
+            return costs[first];
         }
 
         /** The k-th shape of the row: each next one is the first that keeps the sum least. */

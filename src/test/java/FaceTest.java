@@ -59,6 +59,7 @@ public final class FaceTest {
     face();
     classes();
     source();
+    room();
     if (wrong != 0) System.exit(1);
     System.out.println("the face and the rules are kept");
   }
@@ -141,6 +142,30 @@ public final class FaceTest {
       int end = i;
       while (end < lines.length && !lines[end].equals(head.group(1) + "}")) end++;
       check(end - i <= 60, "at most sixty lines: " + lines[i].strip());
+    }
+  }
+
+  /** The dearest run: a new object and 511 calls. The room holds 7.3 million elements, so one run stays far below. */
+  private static void room() {
+    var bean = (com.sun.management.ThreadMXBean) java.lang.management.ManagementFactory.getThreadMXBean();
+    long thread = Thread.currentThread().getId();
+    dearRun();
+    long before = bean.getThreadAllocatedBytes(thread);
+    dearRun();
+    long bytes = bean.getThreadAllocatedBytes(thread) - before;
+    check(bytes < 400000, "a run makes less than 400000 bytes: " + bytes);
+  }
+
+  private static void dearRun() {
+    PipeVoice x = new PipeVoice(5);
+    for (int i = 0; i < 5; i++) x.grid(i, 1 << 1 | 1 << 4 | 1 << 8 | 1 << 12);
+    for (int i = 0; i < 8; i++) x.hear(i, i % 5, -20, 15);
+    for (int i = 0; i < 100; i++) {
+      x.row(8, 7, 0);
+      x.text();
+      x.image();
+      x.back();
+      if (i % 50 == 0) x.ticks(50);
     }
   }
 }
