@@ -54,11 +54,11 @@ public final class PipeVoice {
     public PipeVoice(int pieces) {
         this.pieces = Math.max(FEWEST_PIECES, Math.min(MOST_PIECES, pieces));
         tape = new Tape();
-        reader = new Reader();
         laws = new Law[3];
         for (int i = 0; i < laws.length; i++) {
             laws[i] = new Law();
         }
+        reader = new Reader(tape, laws[0], this.pieces);
         now = new Moment(laws[0]);
         kept = new Moment(laws[0]);
         leads = new int[MOST_TICKS * MOST_PIECES];
@@ -93,7 +93,7 @@ public final class PipeVoice {
 
     public int text() {
         Law spare = spareLaw();
-        reader.begin(tape, spare, pieces);
+        reader.begin(spare);
         // Each CLAUSE takes a TOKEN at least, or has a FAULT.
         for (int i = 0; i < MOST_BYTES && reader.goesOn(); i++) {
             reader.readClause();
@@ -521,9 +521,9 @@ public final class PipeVoice {
         // Above every NUMBER that may stand: longer rows of digits stay at it.
         private static final int TOO_GREAT = 1000;
 
-        private Tape source;
+        private final Tape source;
+        private final int pieces;
         private Law law;
-        private int pieces;
         private int start;
         private int stop;
         private int kind;
@@ -533,10 +533,14 @@ public final class PipeVoice {
         int flaw;
         int place;
 
-        void begin(Tape tape, Law into, int pieceCount) {
+        Reader(Tape tape, Law first, int pieceCount) {
             source = tape;
-            law = into;
+            law = first;
             pieces = pieceCount;
+        }
+
+        void begin(Law into) {
+            law = into;
             law.clear();
             hasRead = true;
             flaw = 0;
