@@ -165,7 +165,7 @@ public final class EdgeTextTest {
     // The same letter, without its second CLAUSE and its second ITEM.
     x = new PipeVoice(2);
     for (int i = 0; i < 4; i++) {
-      Edges.read(x, A + "gesture A 0 to 12 by 6 hold 50 strong 9;word A A at 0,A at 5;");
+      for (int j = 0; j < 2; j++) Edges.read(x, A + "gesture A 0 to 12 by 6 hold 50 strong 9;word A A at 0,A at 5;");
       Edges.read(x, A + "word A A at 0;");
       x.say(0);
       x.ticks(6);

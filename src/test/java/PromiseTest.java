@@ -550,14 +550,15 @@ public final class PromiseTest {
     due("2 to 1", two.tone(2, 1, 0, 0, 0, 0), 16);
     due("1 to 2", two.tone(1, 2, 0, 0, 0, 0), 11);
     due("1 to 2, the other", two.tone(1, 2, 0, 0, 0, 1), -12);
-    greatestBoxes(x);
+    greatestBoxes();
   }
 
   /** Each BOX is the greatest x with more than k above, whatever the order in which the program looks. */
-  private static void greatestBoxes(PipeVoice x) {
+  private static void greatestBoxes() {
     int[] w = {1, 2, 5, 11, 12};
     for (int i = 0; i < 3125; i++) {
       int a = w[i % 5], b = w[i / 5 % 5], c = w[i / 25 % 5], d = w[i / 125 % 5], e = w[i / 625];
+      PipeVoice x = new PipeVoice(5);
       int found = 0;
       for (int box = 19; box >= -20; box--) {
         int count = x.above(a, b, c, d, e, box);
