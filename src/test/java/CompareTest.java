@@ -2,7 +2,8 @@ import java.util.Random;
 
 /** Random runs of calls, each answered by the program and by PlainVoice: every answer must be the same. */
 public final class CompareTest {
-  private static final int RUNS = 400;
+  private static final int RUNS = 2000;
+  // An object is promised for so many calls; what one more answers is free.
   private static final int CALLS = 512;
 
   private final Random random;
@@ -10,6 +11,7 @@ public final class CompareTest {
   private final PlainVoice y;
   private final StringBuilder run = new StringBuilder();
   private boolean wrong = false;
+  private int calls = 0;
 
   private CompareTest(long seed) {
     random = new Random(seed);
@@ -25,7 +27,7 @@ public final class CompareTest {
     int failed = 0;
     for (int seed = first; seed < first + runs; seed++) {
       CompareTest test = new CompareTest(seed);
-      for (int i = 0; i < CALLS && !test.wrong; i++) test.call();
+      for (int i = 0; i < CALLS && test.goesOn(); i++) test.call();
       if (test.wrong) {
         failed++;
         if (failed < 3) System.out.println("seed " + seed + ":\n" + test.run);
@@ -35,7 +37,12 @@ public final class CompareTest {
     if (failed != 0) System.exit(1);
   }
 
+  private boolean goesOn() { return calls < CALLS && !wrong; }
+
+  /** Each call of the program is told here, once; those beyond the last that is promised aren't compared. */
   private void same(String call, long got, long want) {
+    calls++;
+    if (calls > CALLS) return;
     run.append(call).append(" = ").append(got);
     if (got != want) {
       run.append(", due is ").append(want);

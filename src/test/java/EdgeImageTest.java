@@ -15,6 +15,7 @@ public final class EdgeImageTest {
     firstImage();
     image();
     back();
+    backToSaid();
     backFromFull();
     backToFull();
     tapeAndFault();
@@ -128,6 +129,32 @@ public final class EdgeImageTest {
     Edges.due("THE LOOK", x.about(3), 2);
     Edges.due("a telling then", x.hear(7, 0, -20, 19), 4);
     Edges.due("what was told at the same TIME", x.makes(0), Edges.busy().makes(0));
+  }
+
+  private static void backToSaid() {
+    Edges.sentence(29, "all is so again: what is SAID, from its own TICK on");
+    String text = Edges.GESTURE_A + "gesture B 0 to 1 by 6 hold 9 strong 0;word A A at 0;word B B at 0;";
+    PipeVoice x = Edges.with(2, text);
+    x.ticks(1);
+    x.say(0);
+    x.ticks(1);
+    x.say(1);
+    x.image();
+    // Others are SAID in their places, later and by another text, and lead there.
+    x.ticks(3);
+    Edges.read(x, text);
+    x.say(1);
+    x.say(0);
+    x.ticks(1);
+    Edges.due("LED on TICK 5 by the second SAID", x.led(5, 0, 2), 1);
+    Edges.due("back", x.back(), 2);
+    x.ticks(10);
+    // A from TICK 1 to 3; B from 2 to 10, but weaker; then none.
+    int[][] due = {{-1, -1}, {0, 0}, {0, 0}, {0, 0}, {1, 1}, {1, 1}, {1, 1}, {1, 1}, {1, 1}, {1, 1}, {1, 1}, {-1, -1}};
+    for (int t = 0; t < 12; t++) {
+      Edges.due("led(" + t + ", 0, 2)", x.led(t, 0, 2), due[t][0]);
+      Edges.due("led(" + t + ", 0, 4)", x.led(t, 0, 4), due[t][1]);
+    }
   }
 
   private static void backFromFull() {

@@ -725,7 +725,7 @@ public final class PromiseTest {
     due("by THE LOOK", x.row(8, -1, 0), 0);
   }
 
-  private static void images() {
+  private static PipeVoice imaged() {
     promise = 28;
     PipeVoice x = with(2, "rest 3,9;loss 5;lips 50;back 33;" + GESTURE_A + "word A A at 0;");
     x.folds(20, 5, 4);
@@ -736,17 +736,25 @@ public final class PromiseTest {
     x.hear(0, 0, 2, 3);
     x.look(1);
     due("image", x.image(), 2);
-    long[] all = all(x);
-    change(x);
-
     promise = 29;
-    for (int i = 0; i < 2; i++) {
-      due("back", x.back(), 2);
+    return x;
+  }
+
+  private static void images() {
+    // Once back, and twice; a new object each time, as one may have 512 calls.
+    for (int times = 1; times <= 2; times++) {
+      PipeVoice x = imaged();
+      long[] all = all(x);
+      for (int i = 0; i < times; i++) {
+        change(x);
+        x.hear(5, 0, 1, 1);
+        due("back", x.back(), 2);
+      }
       long[] again = all(x);
       for (int j = 0; j < all.length; j++) due("number " + j + " of all", again[j], all[j]);
-      x.hear(5, 0, 1, 1);
-      change(x);
     }
+    PipeVoice x = imaged();
+    change(x);
     // The tape and the latest FAULT stay.
     read(x, "loss 1;!");
     x.feed(1, 2, 3, 4, 5);
@@ -814,8 +822,8 @@ public final class PromiseTest {
       all.add((long) x.makes(i));
       if (i != 6) all.add((long) x.about(i));
     }
-    for (int i = 0; i < 100; i++) all.add(x.sound(i));
-    for (int i = 0; i < 250; i++) all.add((long) x.led(i / 10, i / 5 % 2, i % 5));
+    for (int i = 0; i < 40; i++) all.add(x.sound(i));
+    for (int i = 0; i < 40; i++) all.add((long) x.led(i / 10, i / 5 % 2, i % 5));
     long[] row = new long[all.size()];
     for (int i = 0; i < row.length; i++) row[i] = all.get(i);
     return row;
